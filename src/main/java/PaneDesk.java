@@ -571,7 +571,7 @@ public final class PaneDesk {
         private static void balanced(Box box, int k, int n) {
             int place = k;
             int many = n;
-            while (many > 1) {
+            for (int level = 0; level < WINDOWS && many > 1; level++) {
                 int first = (many + 1) / 2;
                 boolean high = box.w < box.h;
                 if (high) {

@@ -277,6 +277,7 @@ public final class PromisesTest {
         due("view(0, true)", desk.view(0, true), false);
         due("view(2, true)", desk.view(2, true), true);
         dueScreens(desk, 0, 2, 1);
+        due("workspace(2, 2)", desk.workspace(2, 2), -1);
         due("workspace(1, 0)", desk.workspace(1, 0), 2);
         due("workspace(1, 1)", desk.workspace(1, 1), 1);
         due("workspace(1, 2)", desk.workspace(1, 2), 0);
@@ -399,6 +400,15 @@ public final class PromisesTest {
         due("lift(2, 0, 0, 0, 0)", desk.lift(2, 0, 0, 0, 0), false);
         due("count(3)", desk.count(3), 1);
         due("count(4)", desk.count(4), 5);
+        PaneDesk full = with(60);
+        for (int window : new int[] {0, 59}) {
+            due("lift", full.lift(window, 5, 5, 5, 5), true);
+            due("lift, first number", full.lift(window, 6, 5, 5, 5), true);
+            due("lift, second number", full.lift(window, 6, 6, 5, 5), true);
+            due("lift, third number", full.lift(window, 6, 6, 6, 5), true);
+            due("lift, fourth number", full.lift(window, 6, 6, 6, 6), true);
+            due("lift, no number", full.lift(window, 6, 6, 6, 6), false);
+        }
     }
 
     private static void sink() {
@@ -425,6 +435,8 @@ public final class PromisesTest {
             due("layout(" + kind + ")", desk.layout(kind), true);
             due("row(0, 3)", desk.row(0, 3), kind);
         }
+        due("layout(0)", desk.layout(0), true);
+        due("layout(5)", desk.layout(5), true);
         due("row(0, 4)", desk.row(0, 4), 3);
         due("row(0, 5)", desk.row(0, 5), 250);
         due("row(1, 3)", desk.row(1, 3), 0);
@@ -485,6 +497,7 @@ public final class PromisesTest {
         due("rescreen()", desk.rescreen(), true);
         due("count(6)", desk.count(6), 0);
         dueScreens(desk, 0, 1, 2, 3);
+        due("workspace(0, 0)", desk.workspace(0, 0), 6);
         int[] workspaces = {6, 0, 1, 2};
         for (int i = 0; i < 4; i++) {
             due("workspace(1, i)", desk.workspace(1, i), workspaces[i]);
@@ -503,6 +516,12 @@ public final class PromisesTest {
         due("rescreen() to the same", desk.rescreen(), false);
         due("count(4)", desk.count(4), kept);
         due("count(6)", desk.count(6), 0);
+        due("click(3, 6), where a screen was", desk.click(3, 6), false);
+        int[][] oneSideEach = {{8, 9, 9, 9}, {8, 8, 9, 9}, {8, 8, 8, 9}, {8, 8, 8, 8}};
+        for (int[] r : oneSideEach) {
+            desk.rectangle(r[0], r[1], r[2], r[3]);
+            due("rescreen(), one side another", desk.rescreen(), true);
+        }
     }
 
     private static void undo() {
@@ -822,6 +841,11 @@ public final class PromisesTest {
         dueBox(desk, 3, 10, 20, 101, 22);
         desk.shape(0, 500);
         dueBox(desk, 3, 10, 20, 101, 22);
+        PaneDesk six = sized(6, 90, 90);
+        six.layout(5);
+        dueBox(six, 2, 77, 80, 23, 30);
+        dueBox(six, 1, 10, 20, 22, 45);
+        dueBox(six, 0, 10, 65, 22, 45);
         PaneDesk thin = sized(3, 2, 9);
         thin.layout(5);
         dueBox(thin, 2, 10, 20, 1, 9);
@@ -863,6 +887,10 @@ public final class PromisesTest {
         due("at(60, 20)", desk.at(60, 20), 0);
         desk.focus(0);
         due("at(10, 20), the focus", desk.at(10, 20), 0);
+        desk.focus(1);
+        desk.lift(3, 0, 0, 100, 100);
+        due("at(10, 20), first in order", desk.at(10, 20), 3);
+        desk.undo();
         desk.focus(2);
         due("at(10, 20)", desk.at(10, 20), 2);
         due("at(80, 20), the focus is not there", desk.at(80, 20), 0);
