@@ -934,7 +934,10 @@ public final class PaneDesk {
             homes[window] = NONE;
         }
 
-        /** Each half is done on its workspace, which is brought and left again: that reorders screens and hidden ones. */
+        /**
+         * Each half is done on its workspace, which is brought for it and left again: this puts
+         * screens and hidden workspaces in another order, though no row needs it.
+         */
         void carry(int window, int workspace) {
             int from = homes[window];
             if (from == workspace) {
