@@ -1,122 +1,13 @@
 /** For each promise of the document: ordinary calls, the edges that it names, and wrong ones, reckoned by hand. */
-public final class PromisesTest {
-    private static final int LOW = Integer.MIN_VALUE;
-    private static final int HIGH = Integer.MAX_VALUE;
-    private static final int NOWHERE = -20000;
-    private static final Checks CHECKS = new Checks();
-
-    public static void main(String[] args) {
-        aNewObject();
-        open();
-        close();
-        moveFocus();
-        moveSwap();
-        moveWithoutChange();
-        view();
-        viewGreedily();
-        shift();
-        send();
-        focus();
-        click();
-        lift();
-        sink();
-        layout();
-        shape();
-        rectangle();
-        rescreen();
-        undo();
-        latestForty();
-        redo();
-        workspaceAndScreen();
-        count();
-        row();
-        window();
-        place();
-        shownTall();
-        shownWide();
-        shownFull();
-        shownGrid();
-        shownBalanced();
-        shownMiddle();
-        shownFloating();
-        at();
-        sum();
-        CHECKS.end();
-    }
-
-    private static void due(String call, long got, long want) {
-        CHECKS.due(call, got, want);
-    }
-
-    private static void due(String call, boolean got, boolean want) {
-        CHECKS.due(call, got, want);
-    }
-
-    /** A desk with so many windows in workspace 0: their order is from the highest one down, the first is the focus. */
-    private static PaneDesk with(int windows) {
-        PaneDesk desk = new PaneDesk();
-        for (int i = 0; i < windows; i++) {
-            desk.open();
-        }
-        return desk;
-    }
-
-    /** A desk with windows on one screen of a given size at 10, 20. */
-    private static PaneDesk sized(int windows, int width, int height) {
-        PaneDesk desk = with(windows);
-        desk.rectangle(10, 20, width, height);
-        desk.rescreen();
-        return desk;
-    }
-
-    /** Three screens side by side: workspaces 0, 1, 2; hidden 3 .. 8. */
-    private static PaneDesk threeScreens() {
-        PaneDesk desk = new PaneDesk();
-        desk.rectangle(0, 0, 100, 100);
-        desk.rectangle(100, 0, 100, 100);
-        desk.rectangle(200, 0, 100, 100);
-        desk.rescreen();
-        return desk;
-    }
-
-    private static void dueOrder(PaneDesk desk, int workspace, int focus, int... windows) {
-        due("row(" + workspace + ", 0)", desk.row(workspace, 0), windows.length);
-        due("row(" + workspace + ", 1)", desk.row(workspace, 1), focus);
-        for (int k = 0; k < windows.length; k++) {
-            due("window(" + workspace + ", " + k + ")", desk.window(workspace, k), windows[k]);
-        }
-    }
-
-    private static void dueHidden(PaneDesk desk, int... workspaces) {
-        due("count(2)", desk.count(2), workspaces.length);
-        for (int k = 0; k < workspaces.length; k++) {
-            due("workspace(3, " + k + ")", desk.workspace(3, k), workspaces[k]);
-        }
-    }
-
-    /** The current screen's number, then those of the visible ones in their row. */
-    private static void dueScreens(PaneDesk desk, int... numbers) {
-        due("count(1)", desk.count(1), numbers.length);
-        for (int k = 0; k < numbers.length; k++) {
-            due("screen(" + numbers[k] + ", 4)", desk.screen(numbers[k], 4), k);
-        }
-    }
-
-    private static void dueBox(PaneDesk desk, int window, int x, int y, int w, int h) {
-        due("shown(" + window + ", 0)", desk.shown(window, 0), x);
-        due("shown(" + window + ", 1)", desk.shown(window, 1), y);
-        due("shown(" + window + ", 2)", desk.shown(window, 2), w);
-        due("shown(" + window + ", 3)", desk.shown(window, 3), h);
-    }
-
-    private static void dueHiddenWindow(PaneDesk desk, int window) {
-        dueBox(desk, window, NOWHERE, NOWHERE, NOWHERE, NOWHERE);
+public final class PromisesTest extends DeskChecks {
+    public static void main(String[] args) throws Exception {
+        CHECKS.runAll(PromisesTest.class);
     }
 
     // ---- events
 
-    private static void aNewObject() {
-        CHECKS.topic("promise 1");
+    /** Promise 1. */
+    static void p01ANewObject() {
         PaneDesk desk = new PaneDesk();
         dueScreens(desk, 0);
         due("screen(0, 0)", desk.screen(0, 0), 0);
@@ -138,8 +29,8 @@ public final class PromisesTest {
         due("NONE", PaneDesk.NONE, -1);
     }
 
-    private static void open() {
-        CHECKS.topic("promise 2");
+    /** Promise 2. */
+    static void p02Open() {
         PaneDesk desk = with(3);
         dueOrder(desk, 0, 2, 2, 1, 0);
         desk.move(1);
@@ -162,8 +53,8 @@ public final class PromisesTest {
         due("open()", full.open(), -1);
     }
 
-    private static void close() {
-        CHECKS.topic("promise 3");
+    /** Promise 3. */
+    static void p03Close() {
         PaneDesk desk = with(5);
         desk.move(1);
         dueOrder(desk, 0, 3, 4, 3, 2, 1, 0);
@@ -195,8 +86,8 @@ public final class PromisesTest {
         dueHidden(desk, 0, 1, 2, 3, 4, 5, 7, 8);
     }
 
-    private static void moveFocus() {
-        CHECKS.topic("promise 4, focus");
+    /** Promise 4, focus. */
+    static void p04MoveFocus() {
         PaneDesk desk = with(4);
         due("move(0)", desk.move(0), true);
         dueOrder(desk, 0, 0, 3, 2, 1, 0);
@@ -211,8 +102,8 @@ public final class PromisesTest {
         dueOrder(desk, 0, 3, 3, 2, 1, 0);
     }
 
-    private static void moveSwap() {
-        CHECKS.topic("promise 4, swap");
+    /** Promise 4, swap. */
+    static void p04MoveSwap() {
         PaneDesk desk = with(4);
         due("move(3)", desk.move(3), true);
         dueOrder(desk, 0, 3, 2, 1, 0, 3);
@@ -234,8 +125,8 @@ public final class PromisesTest {
         dueOrder(desk, 0, 0, 0, 1, 2, 3);
     }
 
-    private static void moveWithoutChange() {
-        CHECKS.topic("promise 4, no change");
+    /** Promise 4, no change. */
+    static void p04MoveWithoutChange() {
         PaneDesk empty = new PaneDesk();
         PaneDesk one = with(1);
         PaneDesk two = with(2);
@@ -251,9 +142,9 @@ public final class PromisesTest {
         due("count(4)", two.count(4), 2);
     }
 
-    private static void view() {
-        CHECKS.topic("promise 5");
-        PaneDesk desk = threeScreens();
+    /** Promise 5. */
+    static void p05View() {
+        PaneDesk desk = screens(3);
         due("view(0, false)", desk.view(0, false), false);
         due("view(2, false)", desk.view(2, false), true);
         dueScreens(desk, 2, 0, 1);
@@ -271,9 +162,9 @@ public final class PromisesTest {
         due("count(4)", desk.count(4), 4);
     }
 
-    private static void viewGreedily() {
-        CHECKS.topic("promise 5, greedy");
-        PaneDesk desk = threeScreens();
+    /** Promise 5, greedy. */
+    static void p05ViewGreedily() {
+        PaneDesk desk = screens(3);
         due("view(0, true)", desk.view(0, true), false);
         due("view(2, true)", desk.view(2, true), true);
         dueScreens(desk, 0, 2, 1);
@@ -287,9 +178,9 @@ public final class PromisesTest {
         due("workspace(0, 0)", desk.workspace(0, 0), 8);
     }
 
-    private static void shift() {
-        CHECKS.topic("promise 6");
-        PaneDesk desk = threeScreens();
+    /** Promise 6. */
+    static void p06Shift() {
+        PaneDesk desk = screens(3);
         due("shift(3)", desk.shift(3), false);
         desk.open();
         desk.open();
@@ -312,9 +203,9 @@ public final class PromisesTest {
         due("count(4)", desk.count(4), 8);
     }
 
-    private static void send() {
-        CHECKS.topic("promise 7");
-        PaneDesk desk = threeScreens();
+    /** Promise 7. */
+    static void p07Send() {
+        PaneDesk desk = screens(3);
         desk.open();
         desk.view(7, false);
         desk.open();
@@ -340,9 +231,9 @@ public final class PromisesTest {
         due("send(2, -1)", desk.send(2, -1), false);
     }
 
-    private static void focus() {
-        CHECKS.topic("promise 8");
-        PaneDesk desk = threeScreens();
+    /** Promise 8. */
+    static void p08Focus() {
+        PaneDesk desk = screens(3);
         desk.open();
         desk.open();
         desk.open();
@@ -362,9 +253,9 @@ public final class PromisesTest {
         }
     }
 
-    private static void click() {
-        CHECKS.topic("promise 9");
-        PaneDesk desk = threeScreens();
+    /** Promise 9. */
+    static void p09Click() {
+        PaneDesk desk = screens(3);
         desk.open();
         desk.open();
         due("click(0, 0)", desk.click(0, 0), false);
@@ -383,8 +274,8 @@ public final class PromisesTest {
         }
     }
 
-    private static void lift() {
-        CHECKS.topic("promise 10");
+    /** Promise 10. */
+    static void p10Lift() {
         PaneDesk desk = with(2);
         due("lift(0, 0, 0, 0, 0)", desk.lift(0, 0, 0, 0, 0), true);
         due("lift(0, 0, 0, 0, 0)", desk.lift(0, 0, 0, 0, 0), false);
@@ -411,8 +302,8 @@ public final class PromisesTest {
         }
     }
 
-    private static void sink() {
-        CHECKS.topic("promise 11");
+    /** Promise 11. */
+    static void p11Sink() {
         PaneDesk desk = with(2);
         desk.lift(0, 1, 2, 3, 4);
         due("sink(1)", desk.sink(1), false);
@@ -426,8 +317,8 @@ public final class PromisesTest {
         due("count(4)", desk.count(4), 4);
     }
 
-    private static void layout() {
-        CHECKS.topic("promise 12");
+    /** Promise 12. */
+    static void p12Layout() {
         PaneDesk desk = new PaneDesk();
         desk.shape(3, 250);
         due("layout(0)", desk.layout(0), false);
@@ -446,8 +337,8 @@ public final class PromisesTest {
         due("row(0, 3)", desk.row(0, 3), 5);
     }
 
-    private static void shape() {
-        CHECKS.topic("promise 13");
+    /** Promise 13. */
+    static void p13Shape() {
         PaneDesk desk = new PaneDesk();
         due("shape(1, 500)", desk.shape(1, 500), false);
         due("shape(0, 0)", desk.shape(0, 0), true);
@@ -462,8 +353,8 @@ public final class PromisesTest {
         due("count(4)", desk.count(4), 3);
     }
 
-    private static void rectangle() {
-        CHECKS.topic("promise 14");
+    /** Promise 14. */
+    static void p14Rectangle() {
         PaneDesk desk = with(1);
         desk.undo();
         int[][] wrong = {
@@ -483,9 +374,9 @@ public final class PromisesTest {
         due("rectangle", desk.rectangle(0, 0, 1, 1), 1);
     }
 
-    private static void rescreen() {
-        CHECKS.topic("promise 15");
-        PaneDesk desk = threeScreens();
+    /** Promise 15. */
+    static void p15Rescreen() {
+        PaneDesk desk = screens(3);
         desk.view(2, false);
         desk.view(6, false);
         dueScreens(desk, 2, 0, 1);
@@ -524,8 +415,8 @@ public final class PromisesTest {
         }
     }
 
-    private static void undo() {
-        CHECKS.topic("promise 16");
+    /** Promise 16. */
+    static void p16Undo() {
         PaneDesk desk = new PaneDesk();
         due("undo()", desk.undo(), -1);
         long[] sums = new long[12];
@@ -563,8 +454,8 @@ public final class PromisesTest {
         }
     }
 
-    private static void latestForty() {
-        CHECKS.topic("promise 16, the latest 40");
+    /** Promise 16, the latest 40. */
+    static void p16LatestForty() {
         PaneDesk desk = with(45);
         due("count(4)", desk.count(4), 40);
         for (int i = 39; i >= 0; i--) {
@@ -586,8 +477,8 @@ public final class PromisesTest {
         due("count(0)", desk.count(0), 6);
     }
 
-    private static void redo() {
-        CHECKS.topic("promise 17");
+    /** Promise 17. */
+    static void p17Redo() {
         PaneDesk desk = new PaneDesk();
         due("redo()", desk.redo(), -1);
         long[] sums = new long[13];
@@ -618,9 +509,9 @@ public final class PromisesTest {
 
     // ---- what is told
 
-    private static void workspaceAndScreen() {
-        CHECKS.topic("promises 18 and 19");
-        PaneDesk desk = threeScreens();
+    /** Promises 18 and 19. */
+    static void p18WorkspaceAndScreen() {
+        PaneDesk desk = screens(3);
         desk.view(1, false);
         for (int k : new int[] {0, 5, -1, LOW, HIGH}) {
             due("workspace(0, k)", desk.workspace(0, k), 1);
@@ -643,9 +534,9 @@ public final class PromisesTest {
         }
     }
 
-    private static void count() {
-        CHECKS.topic("promise 20");
-        PaneDesk desk = threeScreens();
+    /** Promise 20. */
+    static void p20Count() {
+        PaneDesk desk = screens(3);
         desk.open();
         desk.open();
         desk.lift(0, 1, 1, 1, 1);
@@ -662,9 +553,9 @@ public final class PromisesTest {
         }
     }
 
-    private static void row() {
-        CHECKS.topic("promise 21");
-        PaneDesk desk = threeScreens();
+    /** Promise 21. */
+    static void p21Row() {
+        PaneDesk desk = screens(3);
         desk.view(2, false);
         for (int i = 0; i < 3; i++) {
             desk.open();
@@ -688,8 +579,8 @@ public final class PromisesTest {
         }
     }
 
-    private static void window() {
-        CHECKS.topic("promise 22");
+    /** Promise 22. */
+    static void p22Window() {
         PaneDesk desk = with(3);
         dueOrder(desk, 0, 2, 2, 1, 0);
         for (int[] wrong : new int[][] {{0, 3}, {0, -1}, {1, 0}, {9, 0}, {-1, 0}, {LOW, 0}, {0, HIGH}, {0, LOW}}) {
@@ -697,8 +588,8 @@ public final class PromisesTest {
         }
     }
 
-    private static void place() {
-        CHECKS.topic("promise 23");
+    /** Promise 23. */
+    static void p23Place() {
         PaneDesk desk = with(3);
         desk.lift(1, 10, 20, 30, 40);
         desk.shift(6);
@@ -715,8 +606,8 @@ public final class PromisesTest {
         }
     }
 
-    private static void shownTall() {
-        CHECKS.topic("promise 24, TALL");
+    /** Promise 24, TALL. */
+    static void p24ShownTall() {
         PaneDesk desk = sized(4, 101, 100);
         desk.shape(1, 333);
         dueBox(desk, 3, 10, 20, 33, 100);
@@ -744,14 +635,14 @@ public final class PromisesTest {
         dueBox(low, 1, 10, 22, 6, 2);
         dueBox(low, 0, 10, 24, 6, 2);
         low.view(1, false);
-        dueHiddenWindow(low, 0);
+        dueNotShown(low, 0);
         for (int[] wrong : new int[][] {{0, 4}, {0, -1}, {4, 0}, {-1, 0}, {60, 0}, {LOW, 0}, {0, HIGH}}) {
             due("shown(wrong)", desk.shown(wrong[0], wrong[1]), NOWHERE);
         }
     }
 
-    private static void shownWide() {
-        CHECKS.topic("promise 24, WIDE");
+    /** Promise 24, WIDE. */
+    static void p24ShownWide() {
         PaneDesk desk = sized(4, 100, 101);
         desk.layout(1);
         desk.shape(1, 333);
@@ -765,19 +656,19 @@ public final class PromisesTest {
         dueBox(low, 0, 10, 21, 5, 0);
     }
 
-    private static void shownFull() {
-        CHECKS.topic("promise 24, FULL");
+    /** Promise 24, FULL. */
+    static void p24ShownFull() {
         PaneDesk desk = sized(3, 50, 60);
         desk.layout(2);
         dueBox(desk, 2, 10, 20, 50, 60);
-        dueHiddenWindow(desk, 1);
+        dueNotShown(desk, 1);
         desk.move(0);
         dueBox(desk, 0, 10, 20, 50, 60);
-        dueHiddenWindow(desk, 2);
+        dueNotShown(desk, 2);
         desk.lift(0, 0, 0, 500, 500);
         dueBox(desk, 0, 10, 20, 25, 30);
         dueBox(desk, 2, 10, 20, 50, 60);
-        dueHiddenWindow(desk, 1);
+        dueNotShown(desk, 1);
         due("at(10, 20)", desk.at(10, 20), 0);
         due("at(35, 20)", desk.at(35, 20), 2);
         desk.lift(1, 0, 0, 500, 500);
@@ -785,8 +676,8 @@ public final class PromisesTest {
         due("at(35, 20)", desk.at(35, 20), -1);
     }
 
-    private static void shownGrid() {
-        CHECKS.topic("promise 24, GRID");
+    /** Promise 24, GRID. */
+    static void p24ShownGrid() {
         PaneDesk desk = sized(7, 100, 100);
         desk.layout(3);
         dueBox(desk, 6, 10, 20, 33, 50);
@@ -805,8 +696,8 @@ public final class PromisesTest {
         dueBox(one, 0, 10, 20, 100, 100);
     }
 
-    private static void shownBalanced() {
-        CHECKS.topic("promise 24, BALANCED");
+    /** Promise 24, BALANCED. */
+    static void p24ShownBalanced() {
         PaneDesk desk = sized(5, 100, 100);
         desk.layout(4);
         dueBox(desk, 4, 10, 20, 60, 33);
@@ -820,8 +711,8 @@ public final class PromisesTest {
         dueBox(high, 0, 10, 70, 50, 51);
     }
 
-    private static void shownMiddle() {
-        CHECKS.topic("promise 24, MIDDLE");
+    /** Promise 24, MIDDLE. */
+    static void p24ShownMiddle() {
         PaneDesk desk = sized(4, 101, 90);
         desk.layout(5);
         dueBox(desk, 3, 35, 20, 50, 90);
@@ -858,8 +749,8 @@ public final class PromisesTest {
         dueBox(three, 0, 10, 20, 1, 9);
     }
 
-    private static void shownFloating() {
-        CHECKS.topic("promise 24, floating");
+    /** Promise 24, floating. */
+    static void p24ShownFloating() {
         PaneDesk desk = sized(2, 333, 77);
         desk.lift(0, 500, 999, 1000, 13);
         dueBox(desk, 0, 176, 96, 333, 1);
@@ -871,8 +762,8 @@ public final class PromisesTest {
         dueBox(left, 0, -99, -48, 3, 0);
     }
 
-    private static void at() {
-        CHECKS.topic("promise 25");
+    /** Promise 25. */
+    static void p25At() {
         PaneDesk desk = sized(4, 100, 100);
         due("at(10, 20)", desk.at(10, 20), 3);
         due("at(59, 119)", desk.at(59, 119), 3);
@@ -917,8 +808,8 @@ public final class PromisesTest {
         due("at(15, 9), off the screen", desk.at(15, 9), -1);
     }
 
-    private static void sum() {
-        CHECKS.topic("promise 26");
+    /** Promise 26. */
+    static void p26Sum() {
         PaneDesk desk = new PaneDesk();
         long due = summed(7L, 0, 0, 800, 600, 0, 0, 1, 2, 3, 4, 5, 6, 7, 8);
         for (int i = 0; i < 9; i++) {
@@ -941,13 +832,5 @@ public final class PromisesTest {
         }
         due = summed(due, 0, 1, 2, 3, 4, 1, 10, 20, 30, 40);
         due("sum()", desk.sum(), due);
-    }
-
-    private static long summed(long start, int... numbers) {
-        long sum = start;
-        for (int number : numbers) {
-            sum = (sum * 1000003L) ^ number;
-        }
-        return sum;
     }
 }
