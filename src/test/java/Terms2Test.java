@@ -587,6 +587,21 @@ public final class Terms2Test extends DeskChecks {
         dueHidden(desk, 1, 2, 3, 4, 5, 6, 7);
     }
 
+    /** RESCREENED: "screen 0 .. is CURRENT", though another one was, and that one is there still, with another workspace. */
+    static void p15ScreenZeroIsCurrent() {
+        PaneDesk desk = screens(4);
+        desk.view(2, false);
+        for (int k = 0; k < 4; k++) {
+            desk.rectangle(100 * k, 0, 100, 100);
+        }
+        kept("rescreen()", desk, () -> desk.rescreen());
+        due("workspace(0, 0)", desk.workspace(0, 0), 2);
+        dueScreens(desk, 0, 1, 2, 3);
+        dueWorkspaces(desk, 2, 0, 1, 3);
+        desk.view(8, false);
+        dueWorkspaces(desk, 8, 0, 1, 3);
+    }
+
     /** RESCREENED: the ROWS, LAYOUTS and FLOATING ones stay with their workspaces. */
     static void p15RowsStay() {
         PaneDesk desk = fiveWith(2);
